@@ -93,7 +93,7 @@ public final class SieveTub {
             return NOT;
         }
         for (int c = 0; c < clauses.count; c++) {
-            told.hear(clauses.words[c], clauses.firsts[c], clauses.seconds[c]);
+            told.hear(clauses.deeds[c], clauses.kinds[c], clauses.firsts[c], clauses.seconds[c]);
         }
         text.length = 0;
         now.startAnew(told.hole);
@@ -722,11 +722,11 @@ public final class SieveTub {
             return minute >= frostFrom && minute <= frostTo;
         }
 
-        void hear(Word word, int first, int second) {
-            switch (word.deed) {
+        void hear(int deed, int kind, int first, int second) {
+            switch (deed) {
                 case DO_WELL: setAsAtFirst(); break;
-                case DO_SISTER: addSister(word.kind, first, second); break;
-                case DO_SIEVE: sieve = word.kind; leak = first; break;
+                case DO_SISTER: addSister(kind, first, second); break;
+                case DO_SIEVE: sieve = kind; leak = first; break;
                 case DO_TUB: height = first; break;
                 case DO_HOLE: hole = first; break;
                 case DO_FROST: setFrost(first, second); break;
@@ -887,8 +887,9 @@ public final class SieveTub {
 
     /** The clauses of a text, read to its end or to its first fault. */
     private static final class Clauses {
-        final Word[] allWords;
-        final Word[] words;
+        private final Word[] allWords;
+        final int[] deeds;
+        final int[] kinds;
         final int[] firsts;
         final int[] seconds;
         int count;
@@ -896,7 +897,8 @@ public final class SieveTub {
 
         Clauses() {
             allWords = Word.values();
-            words = new Word[MOST_CLAUSES];
+            deeds = new int[MOST_CLAUSES];
+            kinds = new int[MOST_CLAUSES];
             firsts = new int[MOST_CLAUSES];
             seconds = new int[MOST_CLAUSES];
         }
@@ -943,7 +945,8 @@ public final class SieveTub {
                     second = number;
                 }
             }
-            words[count] = word;
+            deeds[count] = word.deed;
+            kinds[count] = word.kind;
             firsts[count] = first;
             seconds[count] = second;
             return true;
@@ -1095,10 +1098,10 @@ public final class SieveTub {
             }
         }
 
-        /** Rows of delays in their order, so that only one that comes higher takes the place. */
+        /** Goes as deep as there are sisters, 5 at most; the rows of delays come in their order. */
         private void tryFrom(int s) {
             if (s >= told.count || s >= MOST_SISTERS) {
-                judge(s);
+                judge(sums[s]);
                 return;
             }
             if (tried[s] == NONE) {
@@ -1114,18 +1117,22 @@ public final class SieveTub {
         }
 
         private void addRow(int s, int delay) {
+            int[] ahead = sums[s];
+            int[] row = pours[s * DELAYS + delay];
+            int[] sum = sums[s + 1];
             for (int m = 0; m < minutes; m++) {
-                sums[s + 1][m] = sums[s][m] + pours[s * DELAYS + delay][m];
+                sum[m] = ahead[m] + row[m];
             }
         }
 
-        private void judge(int s) {
+        private void judge(int[] sum) {
+            int height = told.height;
             int highest = level;
-            int height = level;
+            int left = level;
             for (int m = 0; m < minutes; m++) {
-                height = Math.min(told.height, height + sums[s][m]);
-                highest = Math.max(highest, height);
-                height -= lostByHole(height, hole);
+                int risen = Math.min(height, left + sum[m]);
+                highest = Math.max(highest, risen);
+                left = risen - lostByHole(risen, hole);
             }
             if (highest > most) {
                 most = highest;

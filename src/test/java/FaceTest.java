@@ -81,6 +81,11 @@ final class FaceTest {
             check.due(one + " is static", one.getModifiers() & Modifier.STATIC, Modifier.STATIC);
             check.due(one + " is public or protected",
                     one.getModifiers() & (Modifier.PUBLIC | Modifier.PROTECTED), 0);
+            for (Method method : one.getDeclaredMethods()) {
+                boolean isOfFace = String.join(",", FACE).matches("(.*,)?" + method.getName() + " .*")
+                        && !method.isSynthetic();
+                check.due(method + " has a public name", isOfFace ? 1 : 0, 0);
+            }
         }
     }
 

@@ -19,6 +19,7 @@ final class ForetoldTest {
         togetherWithWalkers();
         togetherByFrost();
         pitch();
+        fewerSisters();
         CHECK.end();
     }
 
@@ -104,6 +105,10 @@ final class ForetoldTest {
         int foretold = tub.level(99);
         CHECK.due("17: level(99)", foretold, tub.go(99));
         CHECK.due("17: level(0)", tub.level(0), foretold);
+        SieveTub cold = begun("open 5;plain 6 40;hole 0;frost 2 4", 1);
+        CHECK.due("17: three minutes of frost", cold.level(6), 25);
+        cold.go(3);
+        CHECK.due("17: one more minute of frost", cold.level(3), 25);
         foretold = tub.level(61);
         CHECK.due("17: level(61)", foretold, tub.go(61));
         for (int i = 0; i < 8; i++) {
@@ -158,6 +163,13 @@ final class ForetoldTest {
         CHECK.due("20: of those who have none", tub.mossTo(3), 0);
         tub.moss(0);
         CHECK.due("20: all have some", tub.mossTo(3), SieveTub.NONE);
+        SieveTub late = Check.tell("open 4;plain 6 40;hole 0");
+        late.moss(0);
+        late.go(29);
+        late.begin(0);
+        CHECK.due("20: she has some for a minute", late.mossTo(6), SieveTub.NONE);
+        late.go(1);
+        CHECK.due("20: she has none any more", late.mossTo(5), 0);
         SieveTub rest = begun("open 4;plain 2 10;plain 3 12;hole 0", 1);
         CHECK.due("20: who RESTS pours nothing", rest.mossTo(9), 0);
         rest.rest(0);
@@ -170,6 +182,8 @@ final class ForetoldTest {
     private static void mossToOfSeveral() {
         SieveTub tub = begun("open 1;plain 1 9;open 4;plain 1 9;plain 1 9;hole 0", 7);
         CHECK.due("20: of several the least", tub.mossTo(1), 1);
+        SieveTub five = begun("open 0;plain 1 9;plain 1 9;plain 1 9;plain 1 9;open 2;plain 1 9;hole 0", 31);
+        CHECK.due("20: the last of five", five.mossTo(1), 4);
         SieveTub ends = begun("open 4;plain 6 40;open 8;plain 6 40;hole 0", 1);
         ends.go(3);
         ends.begin(1);
@@ -240,6 +254,8 @@ final class ForetoldTest {
         SieveTub late = Check.tell("open 0;lazy 1 10;lazy 4 10;hole 9;tub 99");
         row("23: not within n", late, 3, 10, 0, 0);
         row("23: 3 is within 4", late, 4, 20, 3, 0);
+        SieveTub far = Check.tell("open 0;lazy 2 10;lazy 6 10;hole 9;tub 99");
+        row("23: 3 at most", far, 6, 15, 3, 0);
         SieveTub high = Check.tell("open 0;plain 2 20;plain 3 20;hole 9;tub 25");
         row("23: at most HEIGHT", high, 3, 25, 0, 0);
         row("23: nobody", new SieveTub(), 9, 0);
@@ -294,5 +310,26 @@ final class ForetoldTest {
         CHECK.due("24: 0 at least", tub.pitch(9), 3);
         CHECK.due("24: HOLE stays", tub.count(4), 4);
         CHECK.due("24: none", Check.tell(TWO).pitch(9), SieveTub.NONE);
+    }
+
+    /** Sisters of an earlier text are gone behind well, and pour nothing. */
+    private static void fewerSisters() {
+        SieveTub tub = Check.tell("open 0;plain 1 9;plain 1 9;plain 1 9;plain 1 9;plain 1 9;hole 0");
+        row("23: five", tub, 1, 45, 0, 0, 0, 0, 0);
+        for (int s = 0; s < 5; s++) {
+            tub.begin(s);
+        }
+        CHECK.due("17: five", tub.level(1), 45);
+        Check.write(tub, "well;open 0;plain 1 7;hole 0");
+        tub.well();
+        row("23: one", tub, 1, 7, 0);
+        CHECK.due("17: she RESTS", tub.level(1), 0);
+        tub.begin(0);
+        CHECK.due("17: one", tub.level(1), 7);
+        CHECK.due("18: one", tub.highest(1), 7);
+        CHECK.due("21: one", tub.adds(0, 1), 7);
+        CHECK.due("22: one", tub.fewest(99), 1);
+        CHECK.due("27: one", tub.worked(0), 2);
+        CHECK.due("29: one", tub.count(6), 1);
     }
 }

@@ -76,6 +76,10 @@ final class SeenTest {
         tub.forget();
         tub.seen(0, 1);
         fits("not empty at first", tub, 0, SieveTub.NONE, 0);
+        SieveTub five = Check.tell("open 0;plain 1 1;plain 1 2;plain 1 4;plain 1 8;plain 1 16;hole 0");
+        fits("five, nothing SEEN", five, 32, 0, 0);
+        five.seen(1, 21);
+        fits("five", five, 1, 21, 21);
         SieveTub nobody = new SieveTub();
         fits("nobody", nobody, 1, 0, 0);
         nobody.seen(3, 3);

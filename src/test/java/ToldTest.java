@@ -95,6 +95,14 @@ final class ToldTest {
         fault("tub/5", 3);
         fault("tub:5", 3);
         fault((char) 233 + "well", 0);
+        for (String word : "well plain runner lazy open lined doubled torn tub hole frost thaw".split(" ")) {
+            String numbers = word.matches("well|thaw") ? "" : word.matches("plain|runner|lazy|frost") ? " 1 1" : " 1";
+            fault(word + numbers, -1);
+            fault("x" + word.substring(1) + numbers, 0);
+            fault(word.substring(0, word.length() - 1) + "x" + numbers, 0);
+            fault(word + "x" + numbers, 0);
+            fault(word.substring(1) + numbers, 0);
+        }
         for (String word : "plain runner lazy".split(" ")) {
             fault(word + " 1 1", -1);
             fault(word + "6 40", -1);

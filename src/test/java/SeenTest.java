@@ -80,6 +80,11 @@ final class SeenTest {
         fits("five, nothing SEEN", five, 32, 0, 0);
         five.seen(1, 21);
         fits("five", five, 1, 21, 21);
+        five.forget();
+        for (int m = 1; m <= 6; m++) {
+            five.seen(m, (m + 1) / 2 * 13);
+        }
+        fits("six SEEN", five, 1, 13, 13);
         SieveTub nobody = new SieveTub();
         fits("nobody", nobody, 1, 0, 0);
         nobody.seen(3, 3);

@@ -9,9 +9,13 @@ final class Check {
 
     void due(String call, long got, long want) {
         if (got != want) {
-            wrong++;
-            System.out.println(test + ": " + call + " answered " + got + ", due is " + want);
+            fail(call + " answered " + got + ", due is " + want);
         }
+    }
+
+    void fail(String why) {
+        wrong++;
+        System.out.println(test + ": " + why);
     }
 
     /** Ends the test, with exit code 1 if an answer was wrong. */
@@ -58,8 +62,7 @@ final class Check {
         due(call, answer.getAsInt(), want);
         String behind = state(tub);
         if (!ahead.equals(behind)) {
-            wrong++;
-            System.out.println(test + ": " + call + " was refused but changed " + ahead + "to " + behind);
+            fail(call + " was refused but changed " + ahead + "to " + behind);
         }
     }
 }

@@ -29,6 +29,10 @@ final class FaceTest {
         checkMethods(check);
         checkFields(check);
         checkInside(check);
+        checkKept(check, SieveTub.class);
+        for (Class<?> one : SieveTub.class.getDeclaredClasses()) {
+            checkKept(check, one);
+        }
         check.end();
     }
 
@@ -87,6 +91,27 @@ final class FaceTest {
                 check.due(method + " has a public name", isOfFace ? 1 : 0, 0);
             }
         }
+    }
+
+    /** LANGUAGE.md's rules 2, 5 and 11: what fields may be, and how many. */
+    private static void checkKept(Check check, Class<?> owner) {
+        int many = 0;
+        for (Field field : owner.getDeclaredFields()) {
+            if (field.isSynthetic() || field.isEnumConstant()) {
+                continue;
+            }
+            String type = field.getType().getSimpleName();
+            if (Modifier.isStatic(field.getModifiers())) {
+                check.due(field + " is final", field.getModifiers() & Modifier.FINAL, Modifier.FINAL);
+                check.due(field + " may be static", type.matches(
+                        "int|long|boolean|char|String|(int|long|char|byte)\\[\\]") ? 1 : 0, 1);
+            } else {
+                many++;
+                boolean mayStand = !owner.isEnum() || type.matches("int|long|boolean|String");
+                check.due(field + " may stand in an enum", mayStand ? 1 : 0, 1);
+            }
+        }
+        check.due(owner + " has some twenty fields at most", many <= 20 ? 1 : 0, 1);
     }
 
     private static int isPrivate(Member member) {
